@@ -35,8 +35,8 @@ public final class FaithfulStools {
     private int faultPlace;
 
     public FaithfulStools() {
-        tape = new Tape();
-        reader = new Reader(tape);
+        reader = new Reader();
+        tape = reader.lexer.tape;
         told = new Chapel();
         draft = new Chapel();
         now = new State();
@@ -660,8 +660,9 @@ public final class FaithfulStools {
     private static final class Tape {
         static final int MOST = 1600;
 
-        private final byte[] bytes = new byte[MOST];
-        private int size = 0;
+        final byte[] bytes = new byte[MOST];
+        /** MOST at most. */
+        int size = 0;
 
         boolean hasRoomFor(int more) {
             return size + more <= MOST;
@@ -674,11 +675,6 @@ public final class FaithfulStools {
                     size++;
                 }
             }
-        }
-
-        /** The byte at a place, 0 to 255; -1 where there is none. */
-        int at(int place) {
-            return place >= 0 && place < size && place < MOST ? bytes[place] & 255 : -1;
         }
     }
 
@@ -719,30 +715,30 @@ public final class FaithfulStools {
             "heavy many warm dent strong day or and not hearth at room stool creed bears wears saves cold draw ";
         private static final String SIGNS = ";()<>=+-*/%";
         private static final int MOST_LETTERS = 8;
+        /** Letters are digits of this, so that each word of eight at most is a number of its own. */
+        private static final int LETTERS = 32;
+        private static final int BEFORE_A = 96;
         private static final int MOST_DIGITS = 4;
 
-        private final Tape tape;
+        final Tape tape = new Tape();
         private final long[] words = new long[DRAW + 1];
-        private int behind;
-        private int token;
-        private int start;
-        private int number;
-        private long name;
-        private int fault;
-        private int place;
+        private int behind = 0;
+        private int start = 0;
+        int token = END;
+        /** Of a token that is one. */
+        int number = 0;
+        long name = 0;
+        int fault = 0;
+        int place = NONE;
 
-        Lexer(Tape tape) {
-            this.tape = tape;
+        Lexer() {
             int word = 1;
-            long packed = 0;
             for (int i = 0; i < WORDS.length() && word < words.length; i++) {
                 char sign = WORDS.charAt(i);
                 if (sign == ' ') {
-                    words[word] = packed;
                     word++;
-                    packed = 0;
                 } else {
-                    packed = packedWith(packed, sign);
+                    words[word] = words[word] * LETTERS + (sign - BEFORE_A);
                 }
             }
         }
@@ -754,56 +750,55 @@ public final class FaithfulStools {
             advance();
         }
 
+        /** Takes the next token. Bytes from 128 on are below 0 here, and so no sign of any. */
         void advance() {
+            byte[] bytes = tape.bytes;
             int at = behind;
-            while (at < tape.size && isBlank(tape.at(at))) {
+            while (at < tape.size && (bytes[at] == ' ' || bytes[at] == '\n')) {
                 at++;
             }
             start = at;
-            int sign = tape.at(at);
-            if (sign < 0) {
+            behind = at + 1;
+            if (at >= tape.size) {
                 token = END;
                 behind = at;
-            } else if (isLetter(sign)) {
+            } else if (bytes[at] >= 'a' && bytes[at] <= 'z') {
                 takeWord();
-            } else if (isDigit(sign)) {
+            } else if (bytes[at] >= '0' && bytes[at] <= '9') {
                 takeNumber();
             } else {
-                token = SIGNS.indexOf((char) sign) >= 0 ? sign : BAD;
-                behind = at + 1;
+                token = bytes[at] > 0 && SIGNS.indexOf((char) bytes[at]) >= 0 ? bytes[at] : BAD;
             }
         }
 
         private void takeWord() {
+            byte[] bytes = tape.bytes;
             int at = start;
             name = 0;
-            while (at < tape.size && isLetter(tape.at(at))) {
-                name = packedWith(name, tape.at(at));
+            while (at < tape.size && bytes[at] >= 'a' && bytes[at] <= 'z') {
+                name = name * LETTERS + (bytes[at] - BEFORE_A);
                 at++;
             }
-            token = at - start > MOST_LETTERS ? BAD : wordOf(name);
             behind = at;
+            token = at - start > MOST_LETTERS ? BAD : NAME;
+            for (int word = 1; token == NAME && word < words.length; word++) {
+                if (words[word] == name) {
+                    token = word;
+                }
+            }
         }
 
         private void takeNumber() {
+            byte[] bytes = tape.bytes;
             int at = start;
             number = 0;
-            while (at < tape.size && isDigit(tape.at(at))) {
-                number = number * 10 + (tape.at(at) - '0');
+            while (at < tape.size && bytes[at] >= '0' && bytes[at] <= '9') {
+                number = number * 10 + (bytes[at] - '0');
                 at++;
             }
-            boolean whole = at - start <= MOST_DIGITS && !isLetter(tape.at(at));
-            token = whole ? NUMBER : BAD;
             behind = at;
-        }
-
-        private int wordOf(long packed) {
-            for (int word = 1; word < words.length; word++) {
-                if (words[word] == packed) {
-                    return word;
-                }
-            }
-            return NAME;
+            boolean letterBehind = at < tape.size && bytes[at] >= 'a' && bytes[at] <= 'z';
+            token = letterBehind || at - start > MOST_DIGITS ? BAD : NUMBER;
         }
 
         /** Notes the fault at the token at hand; where there is no token at all that is the lesser one. */
@@ -821,26 +816,12 @@ public final class FaithfulStools {
             advance();
             return true;
         }
-
-        // Eight letters of five bits make each word a number of its own.
-        private static long packedWith(long packed, int letter) {
-            return packed * 32 + (letter - 'a' + 1);
-        }
-
-        private static boolean isBlank(int sign) {
-            return sign == 32 || sign == 10;
-        }
-
-        private static boolean isLetter(int sign) {
-            return sign >= 'a' && sign <= 'z';
-        }
-
-        private static boolean isDigit(int sign) {
-            return sign >= '0' && sign <= '9';
-        }
     }
 
-    /** A whole formula as a row of codes, operands ahead of what joins them: a number by itself, all else by its token below 0. */
+    /**
+     * A whole formula as a row of codes, operands ahead of what joins them: a number stands for itself,
+     * all else is its token below 0.
+     */
     private static final class Formula {
         static final int MOST_UNITS = 30;
         static final int MOST_DEEP = 7;
@@ -850,7 +831,7 @@ public final class FaithfulStools {
         private final int[] codes = new int[MOST_CODES];
         private final int[] stack = new int[MOST_UNITS];
         private int size = 0;
-        private int units = 0;
+        int units = 0;
 
         void clear() {
             size = 0;
@@ -918,11 +899,7 @@ public final class FaithfulStools {
 
     /** Reads formulas; depth is how many brackets and nots stand open around. */
     private static final class FormulaReader {
-        private final Lexer lexer;
-
-        FormulaReader(Lexer lexer) {
-            this.lexer = lexer;
-        }
+        final Lexer lexer = new Lexer();
 
         // Each join brings a unit more, so the loops below end at the bound of units.
 
@@ -1022,19 +999,14 @@ public final class FaithfulStools {
         private static final int MOST_AT = 99;
         private static final int MOST_OF = 99;
 
-        private final Lexer lexer;
-        private final FormulaReader formulas;
+        private final FormulaReader formulas = new FormulaReader();
+        final Lexer lexer = formulas.lexer;
         private final long[] hearthNames = new long[Chapel.MOST_HEARTHS];
         private final long[] stoolNames = new long[Chapel.MOST_STOOLS];
         /** Words of lines that may be told once, each by the bit of its number. */
-        private int toldWords;
-        /** The number read last. */
-        private int number;
-
-        Reader(Tape tape) {
-            lexer = new Lexer(tape);
-            formulas = new FormulaReader(lexer);
-        }
+        private int toldWords = 0;
+        /** The number told last. */
+        private int number = 0;
 
         boolean readInto(Chapel draft) {
             draft.clear();
@@ -1188,23 +1160,23 @@ public final class FaithfulStools {
         static final int MOST_ROOM = 5;
         private static final int MOST_LOAD = 999;
 
-        private final int[] hearthAt = new int[MOST_HEARTHS];
-        private final int[] heavy = new int[MOST_HEARTHS];
-        private final int[] room = new int[MOST_HEARTHS];
-        private final int[] warm = new int[MOST_HEARTHS];
-        private final int[] stoolAt = new int[MOST_STOOLS];
-        private final int[] strong = new int[MOST_STOOLS];
-        private final int[] creed = new int[MOST_STOOLS];
-        private final int[] dent = new int[MOST_STOOLS];
-        private final Formula bears = new Formula();
-        private final Formula wears = new Formula();
+        final int[] hearthAt = new int[MOST_HEARTHS];
+        final int[] heavy = new int[MOST_HEARTHS];
+        final int[] room = new int[MOST_HEARTHS];
+        final int[] warm = new int[MOST_HEARTHS];
+        final int[] stoolAt = new int[MOST_STOOLS];
+        final int[] strong = new int[MOST_STOOLS];
+        final int[] creed = new int[MOST_STOOLS];
+        final int[] dent = new int[MOST_STOOLS];
+        final Formula bears = new Formula();
+        final Formula wears = new Formula();
         /** Scratch: the terms of the formulas, each at its word's number. */
         private final int[] terms = new int[Lexer.DAY + 1];
-        private int hearths = 0;
-        private int stools = 0;
-        private int saves = 7;
-        private int cold = 0;
-        private int draw = 0;
+        int hearths = 0;
+        int stools = 0;
+        int saves = 7;
+        int cold = 0;
+        int draw = 0;
 
         void clear() {
             hearths = 0;
@@ -1296,12 +1268,12 @@ public final class FaithfulStools {
         static final int CELLS = 4 * Chapel.MOST_STOOLS + 2;
         private static final int MOST = 99;
 
-        private final int[] strength = new int[Chapel.MOST_STOOLS];
-        private final int[] dent = new int[Chapel.MOST_STOOLS];
-        private final int[] evenings = new int[Chapel.MOST_STOOLS];
-        private final int[] sent = new int[Chapel.MOST_STOOLS];
-        private int day = 0;
-        private int seed = 0;
+        final int[] strength = new int[Chapel.MOST_STOOLS];
+        final int[] dent = new int[Chapel.MOST_STOOLS];
+        final int[] evenings = new int[Chapel.MOST_STOOLS];
+        final int[] sent = new int[Chapel.MOST_STOOLS];
+        int day = 0;
+        int seed = 0;
 
         void begin(Chapel chapel) {
             System.arraycopy(chapel.strong, 0, strength, 0, Chapel.MOST_STOOLS);
@@ -1449,8 +1421,8 @@ public final class FaithfulStools {
         private static final int MOST = 40;
 
         private final int[] cells = new int[(MOST + 1) * State.CELLS];
-        private int done = 0;
-        private int undone = 0;
+        int done = 0;
+        int undone = 0;
 
         void begin(State now) {
             done = 0;
@@ -1503,15 +1475,15 @@ public final class FaithfulStools {
         private static final int WALK_PRICE = ORDERS;
         /** A walk is at most 5 times 99. */
         private static final int COUNT_PRICE = 500 * WALK_PRICE;
-        private static final int NEVER = Integer.MAX_VALUE;
+        private static final int NEVER = 1000000000;
 
         private final int[] least = new int[SETS];
         private final int[] leastBefore = new int[SETS];
         private final int[] prices = new int[SETS];
         private final int[] bearingOf = new int[Chapel.MOST_STOOLS + 1];
-        private final int[] places = new int[Chapel.MOST_STOOLS];
-        private int counting = 0;
-        private int way = 0;
+        final int[] places = new int[Chapel.MOST_STOOLS];
+        int counting = 0;
+        int way = 0;
 
         /** Finds SERVICE, or ROUND: false if there is none. */
         boolean find(Chapel chapel, State state, boolean service) {
@@ -1608,8 +1580,8 @@ public final class FaithfulStools {
         /** What a hearth is to the first (0) and the other one (1); less is better. */
         private final int[][] alone = new int[2][Chapel.MOST_HEARTHS];
         private final int[][] together = new int[2][Chapel.MOST_HEARTHS];
-        private int firstPlace = NONE;
-        private int otherPlace = NONE;
+        int firstPlace = NONE;
+        int otherPlace = NONE;
 
         int findRests(Chapel chapel, State state, int stool, int other) {
             for (int hearth = 0; hearth < chapel.hearths; hearth++) {
@@ -1677,15 +1649,15 @@ public final class FaithfulStools {
         private final int[] toldAt = new int[MOST];
         /** NONE while it is not untold. */
         private final int[] untoldAt = new int[MOST];
-        private int size = 0;
-        private int time = 0;
+        int size = 0;
+        int time = 0;
         // What all that counts leaves of each evening's dent and strength.
         private final int[] leastDent = new int[EVENINGS];
         private final int[] mostDent = new int[EVENINGS];
         private final int[] leastStrength = new int[EVENINGS];
         private final int[] mostStrength = new int[EVENINGS];
         /** Rows by evening and place there; nowhere stands behind the hearths. */
-        private final int[][] tally = new int[EVENINGS][Chapel.MOST_HEARTHS + 1];
+        final int[][] tally = new int[EVENINGS][Chapel.MOST_HEARTHS + 1];
         private final State lone = new State();
 
         void forget() {

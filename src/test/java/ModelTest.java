@@ -38,13 +38,12 @@ public final class ModelTest {
         Texts texts = new Texts(random);
         FaithfulStools x = new FaithfulStools();
         Model model = new Model();
-        int size = run % 20 == 0 ? 6 : 4;
-        String text = texts.fine(size, size - 1);
-        tell(run, x, model, text);
+        boolean full = run % 10 == 0;
+        tell(run, x, model, full ? texts.whole(6, 5) : texts.fine(4, 4));
         for (int i = 0; i < 440; i++) {
             int kind = random.nextInt(100);
             if (kind < 3) {
-                tell(run, x, model, texts.spoilt(texts.fine(size, size - 1)));
+                tell(run, x, model, texts.spoilt(full ? texts.whole(6, 5) : texts.fine(4, 4)));
             } else if (kind < 40) {
                 String act = ACTS.get(random.nextInt(ACTS.size()));
                 invoke(run, x, model, methods.stream().filter(m -> m.getName().equals(act)).findFirst().get(), random);

@@ -10,10 +10,13 @@ final class Texts {
     }
 
     String fine(int mostHearths, int mostStools) {
+        return whole(random.nextInt(mostHearths + 1), random.nextInt(mostStools + 1));
+    }
+
+    /** A chapel of just so many; small numbers make loads that are just as much as a strength. */
+    String whole(int hearths, int stools) {
         StringBuilder b = new StringBuilder();
-        int hearths = random.nextInt(mostHearths + 1);
-        int stools = random.nextInt(mostStools + 1);
-        int top = random.nextBoolean() ? 30 : 100;
+        int top = new int[] {6, 30, 100}[random.nextInt(3)];
         for (int h = 0; h < hearths; h++) {
             b.append("hearth ").append(name(h)).append(" at ").append(random.nextInt(100));
             b.append(" heavy ").append(random.nextInt(top));
