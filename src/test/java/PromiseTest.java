@@ -280,8 +280,16 @@ public final class PromiseTest {
         FaithfulStools x = Checks.told(lines("stool ", 5, " at 1 strong 1;") + lines("hearth ", 6, " at 1 heavy 1;"));
         due("4 five stools", x.about(0), 5);
         due("4 six hearths", x.about(1), 6);
-        x = Checks.told("stool one at1 strong2 creed3 dent4;");
+        x = Checks.told("stool one at1 strong2 creed3 dent4;hearth abcdefgh at 0 heavy 0 room 1 warm 0;"
+            + "hearth abcdefgi at 0 heavy 0 warm 9;stool abcdefgh at 99 strong 99 creed 0 dent 0;");
         due("4 no blanks", x.stool(0, 3), 4);
+        due("4 names of eight", x.about(1), 2);
+        due("4 least room", x.hearth(0, 2), 1);
+        due("4 least warm", x.hearth(0, 3), 0);
+        due("4 room not told", x.hearth(1, 2), 1);
+        due("4 most warm", x.hearth(1, 3), 9);
+        due("4 most at", x.stool(1, 0), 99);
+        due("4 least dent", x.stool(1, 3), 0);
     }
 
     private void hearthsAndStools() {
@@ -1022,6 +1030,13 @@ public final class PromiseTest {
         due("25 will", x.will(4, 2), 1);
         due("11 evening", x.evening(), 0);
         due("27 saved", x.saved(), 31);
+        x = Checks.told("hearth a at 0 heavy 36 room 5;" + stools);
+        due("16 five at one", x.round(0), 5);
+        lie("16 five at one", x, 0, 0, 0, 0, 0);
+        due("17 five at one", x.service(), 150);
+        x = Checks.told("hearth a at 0 heavy 32 room 4;" + stools);
+        due("16 four at one", x.round(1), 100);
+        lie("16 four at one", x, 0, 0, 0, 0, -1);
         x = Checks.told(hearths.replace("heavy 40", "heavy 0") + stools + "wears dent;");
         due("16 of like ones", x.round(1), 0);
         lie("16 at home, or with v", x, 0, 1, 2, 3, 4);
@@ -1031,6 +1046,9 @@ public final class PromiseTest {
         due("21 just as strong", x.change(0), -1);
         due("22 just as strong: each at home, or at the other one's", x.guests(0, 1), 2);
         lie("22 each at home", x, 0, 1);
+        x = Checks.told("hearth a at 0 heavy 9 room 2; hearth b at 9 heavy 99; stool x at 0 strong 5; stool y at 9 strong 5;");
+        due("22 just as strong together", x.guests(0, 1), 1);
+        lie("22 together", x, 0, 0);
         x = Checks.told(PAST);
         // At a first and nowhere last; between, at a or nowhere.
         x.dented(1, 1, true);
