@@ -2,7 +2,10 @@ import java.nio.charset.StandardCharsets;
 import java.util.Arrays;
 
 /** What the tests share: feeding a text, and counting answers that are not as due. */
-final class Checks {
+class Checks {
+    static final int LOW = Integer.MIN_VALUE;
+    static final int HIGH = Integer.MAX_VALUE;
+
     private int wrong = 0;
     private int made = 0;
 
@@ -18,6 +21,25 @@ final class Checks {
 
     void due(String call, boolean got, boolean want) {
         due(call, got ? 1 : 0, want ? 1 : 0);
+    }
+
+    /** A text that a new object refuses. */
+    void fault(String text, int fault, int place) {
+        FaithfulStools x = new FaithfulStools();
+        due("4 chapel of " + text, tell(x, text), -1);
+        due("5 fault of " + text, x.fault(0), fault);
+        due("5 place of " + text, x.fault(1), place);
+    }
+
+    /** These numbers lie there, and no others. */
+    void lie(String call, FaithfulStools x, int... numbers) {
+        due(call + " count", x.about(12), numbers.length);
+        for (int i = 0; i < numbers.length; i++) {
+            due(call + " lies " + i, x.lies(i), numbers[i]);
+        }
+        for (int none : new int[] {-1, numbers.length, numbers.length + 1, LOW, HIGH}) {
+            due(call + " lies not " + none, x.lies(none), -2);
+        }
     }
 
     /** Ends the program with exit code 1 if an answer was wrong. */

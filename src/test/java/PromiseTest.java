@@ -1,15 +1,11 @@
 /** Each promise by hand: ordinary inputs, the edges that the document names, wrong inputs. */
-public final class PromiseTest {
+public final class PromiseTest extends Checks {
     /** x bears a only with another one, y bears b alone, z of another creed bears both alone. */
     private static final String STREET = "hearth a at 10 heavy 10 room 2 warm 3; hearth b at 30 heavy 7;\n"
         + "stool x at 0 strong 6; stool y at 20 strong 8 creed 0 dent 4; stool z at 50 strong 20 creed 1; saves 2;";
     private static final String DRAWS = "hearth a at 0 heavy 5; hearth b at 0 heavy 9; hearth c at 0 heavy 5;"
         + "stool x at 0 strong 9; stool y at 0 strong 8; stool z at 0 strong 7; cold 30; draw 9;";
     private static final String PAST = "hearth a at 0 heavy 5; hearth b at 0 heavy 50; stool x at 0 strong 9;";
-    private static final int LOW = Integer.MIN_VALUE;
-    private static final int HIGH = Integer.MAX_VALUE;
-
-    private final Checks checks = new Checks();
 
     public static void main(String[] args) {
         PromiseTest t = new PromiseTest();
@@ -44,15 +40,7 @@ public final class PromiseTest {
         t.about();
         t.fullTape();
         t.fullChapel();
-        t.checks.close("PromiseTest");
-    }
-
-    private void due(String call, long got, long want) {
-        checks.due(call, got, want);
-    }
-
-    private void due(String call, boolean got, boolean want) {
-        checks.due(call, got, want);
+        t.close("PromiseTest");
     }
 
     private void newObject() {
@@ -104,7 +92,7 @@ public final class PromiseTest {
     }
 
     private void chapelStartsAnew() {
-        FaithfulStools x = Checks.told(STREET);
+        FaithfulStools x = told(STREET);
         x.later(5);
         x.round(0);
         x.send(0, 0);
@@ -113,7 +101,7 @@ public final class PromiseTest {
         x.undo();
         x.dented(1, 1, true);
         x.image(0);
-        due("4 a fault", Checks.tell(x, "saves 3; foot"), -1);
+        due("4 a fault", tell(x, "saves 3; foot"), -1);
         due("4 the fault", x.fault(0), 2);
         due("4 its place", x.fault(1), 9);
         int[] stays = {3, 2, 2, 0, 0, 0, 2, 1, 1, 5, 0, 0, 3};
@@ -124,7 +112,7 @@ public final class PromiseTest {
         due("4 stays kept", x.back(0), 0);
         x.send(2, 1);
         x.evening();
-        due("4 anew", Checks.tell(x, DRAWS), 3);
+        due("4 anew", tell(x, DRAWS), 3);
         int[] anew = {3, 3, 7, 30, 0, 9, 0, 0, 0, 5, 0, 0, 0};
         for (int what = 0; what < anew.length; what++) {
             due("4 anew " + what, x.about(what), anew[what]);
@@ -141,18 +129,11 @@ public final class PromiseTest {
         due("4 box empty", x.back(0), -1);
         due("4 lies nothing", x.lies(0), -2);
         due("4 no undo", x.undo(), false);
-        due("4 empty", Checks.tell(x, ""), 0);
+        due("4 empty", tell(x, ""), 0);
         due("4 no hearths", x.about(1), 0);
         due("4 saves again 7", x.about(2), 7);
         due("4 cold again 0", x.about(3), 0);
         due("4 seed again 0", x.about(5), 0);
-    }
-
-    private void fault(String text, int fault, int place) {
-        FaithfulStools x = new FaithfulStools();
-        due("5 chapel of " + text, Checks.tell(x, text), -1);
-        due("5 fault of " + text, x.fault(0), fault);
-        due("5 place of " + text, x.fault(1), place);
     }
 
     private void faultsOfTokens() {
@@ -257,7 +238,7 @@ public final class PromiseTest {
 
     private void stands(String text, int units) {
         FaithfulStools x = new FaithfulStools();
-        due("4 chapel of " + text, Checks.tell(x, text), 0);
+        due("4 chapel of " + text, tell(x, text), 0);
         due("45 units of " + text, x.about(11), units);
     }
 
@@ -277,10 +258,10 @@ public final class PromiseTest {
         }
         stands(nots + ";", 30);
         stands(lines("hearth ", 6, " at 1 heavy 1;"), 0);
-        FaithfulStools x = Checks.told(lines("stool ", 5, " at 1 strong 1;") + lines("hearth ", 6, " at 1 heavy 1;"));
+        FaithfulStools x = told(lines("stool ", 5, " at 1 strong 1;") + lines("hearth ", 6, " at 1 heavy 1;"));
         due("4 five stools", x.about(0), 5);
         due("4 six hearths", x.about(1), 6);
-        x = Checks.told("stool one at1 strong2 creed3 dent4;hearth abcdefgh at 0 heavy 0 room 1 warm 0;"
+        x = told("stool one at1 strong2 creed3 dent4;hearth abcdefgh at 0 heavy 0 room 1 warm 0;"
             + "hearth abcdefgi at 0 heavy 0 warm 9;stool abcdefgh at 99 strong 99 creed 0 dent 0;");
         due("4 no blanks", x.stool(0, 3), 4);
         due("4 names of eight", x.about(1), 2);
@@ -293,7 +274,7 @@ public final class PromiseTest {
     }
 
     private void hearthsAndStools() {
-        FaithfulStools x = Checks.told(STREET);
+        FaithfulStools x = told(STREET);
         int[][] hearths = {{10, 10, 2, 3, 0, 0, -1}, {30, 7, 1, 0, 0, 0, -1}};
         int[][] stools = {{0, 6, 0, 0, 0, -1, 0, -2}, {20, 8, 0, 4, 0, -1, 0, -2}, {50, 20, 1, 0, 0, -1, 0, -2}};
         for (int h = 0; h < 2; h++) {
@@ -328,7 +309,7 @@ public final class PromiseTest {
     }
 
     private void loads() {
-        FaithfulStools x = Checks.told(STREET);
+        FaithfulStools x = told(STREET);
         due("8 nowhere", x.load(0), -1);
         due("8 none such", x.load(3), -1);
         due("8 none such", x.load(-1), -1);
@@ -338,7 +319,7 @@ public final class PromiseTest {
         due("8 parted, though they quarrel", x.load(0), 5);
         x.send(2, 1);
         due("8 other hearth", x.load(2), 7);
-        x = Checks.told("hearth a at 0 heavy 10 room 3; stool x at 0 strong 9; stool y at 0 strong 9; stool z at 0 strong 9;");
+        x = told("hearth a at 0 heavy 10 room 3; stool x at 0 strong 9; stool y at 0 strong 9; stool z at 0 strong 9;");
         x.send(0, 0);
         x.send(1, 0);
         x.send(2, 0);
@@ -346,7 +327,7 @@ public final class PromiseTest {
     }
 
     private int valueOf(String formula) {
-        FaithfulStools x = Checks.told("hearth a at 0 heavy 30 room 2 warm 4; stool x at 0 strong 50 dent 7; stool y at 0 strong 1;"
+        FaithfulStools x = told("hearth a at 0 heavy 30 room 2 warm 4; stool x at 0 strong 50 dent 7; stool y at 0 strong 1;"
             + "bears " + formula + ";");
         x.send(1, 0);
         x.send(0, 0);
@@ -382,7 +363,7 @@ public final class PromiseTest {
     }
 
     private void sendAndCall() {
-        FaithfulStools x = Checks.told(STREET);
+        FaithfulStools x = told(STREET);
         due("9 from nowhere", x.send(0, 1), -1);
         due("9 no room", x.send(1, 1), -2);
         due("9 there already", x.send(0, 1), -2);
@@ -404,7 +385,7 @@ public final class PromiseTest {
     }
 
     private void evenings() {
-        FaithfulStools x = Checks.told(STREET);
+        FaithfulStools x = told(STREET);
         x.send(0, 0);
         x.send(1, 0);
         due("11 none cold", x.evening(), 0);
@@ -426,13 +407,13 @@ public final class PromiseTest {
         due("11 rests", x.stool(0, 1), 6);
         x.evening();
         due("11 as strong as told", x.stool(0, 1), 6);
-        x = Checks.told(STREET);
+        x = told(STREET);
         x.send(1, 0);
         x.send(2, 0);
         x.evening();
         due("11 quarrelled away", x.stool(2, 4), 0);
         due("11 quarrelled away", x.stool(1, 1), 8);
-        x = Checks.told("hearth a at 0 heavy 5 warm 2; stool x at 0 strong 50 dent 97; stool y at 0 strong 9 dent 3;"
+        x = told("hearth a at 0 heavy 5 warm 2; stool x at 0 strong 50 dent 97; stool y at 0 strong 9 dent 3;"
             + "bears dent/4; wears warm+dent-dent+strong/10+heavy+many+day;");
         x.send(0, 0);
         x.evening();
@@ -440,21 +421,21 @@ public final class PromiseTest {
         due("11 dent at most", x.stool(0, 3), 99);
         x.evening();
         due("11 wears by the day", x.stool(0, 1), 37 - (2 + 3 + 5 + 1 + 1));
-        x = Checks.told("hearth a at 0 heavy 1; stool x at 0 strong 5; wears 0-3;");
+        x = told("hearth a at 0 heavy 1; stool x at 0 strong 5; wears 0-3;");
         x.send(0, 0);
         for (int i = 0; i < 120; i++) {
             x.evening();
         }
         due("11 wears 0 at least", x.stool(0, 1), 5);
         due("11 evenings at most", x.stool(0, 4), 99);
-        x = Checks.told("hearth a at 0 heavy 1; stool x at 0 strong 5; wears 300;");
+        x = told("hearth a at 0 heavy 1; stool x at 0 strong 5; wears 300;");
         x.send(0, 0);
         x.evening();
         due("11 wears all he has at most", x.stool(0, 1), 0);
     }
 
     private void coldEvenings() {
-        FaithfulStools x = Checks.told(DRAWS);
+        FaithfulStools x = told(DRAWS);
         x.send(0, 0);
         x.send(1, 1);
         x.send(2, 2);
@@ -469,19 +450,19 @@ public final class PromiseTest {
         due("11 not cold", x.stool(2, 4), 1);
         x.undo();
         due("12 seed", x.about(5), 9);
-        x = Checks.told(DRAWS.replace("cold 30", "cold 100"));
+        x = told(DRAWS.replace("cold 30", "cold 100"));
         due("11 all cold", x.evening(), 7);
-        x = Checks.told(DRAWS.replace("cold 30", "cold 4"));
+        x = told(DRAWS.replace("cold 30", "cold 4"));
         due("11 less than told", x.evening(), 0);
-        x = Checks.told(DRAWS.replace("cold 30", "cold 5"));
+        x = told(DRAWS.replace("cold 30", "cold 5"));
         due("11 less than told", x.evening(), 1);
-        x = Checks.told(DRAWS.replace("cold 30", "cold 0"));
+        x = told(DRAWS.replace("cold 30", "cold 0"));
         due("11 none cold", x.evening(), 0);
         due("11 drawn all the same", x.about(5), 574);
     }
 
     private void undoAndRedo() {
-        FaithfulStools x = Checks.told(STREET);
+        FaithfulStools x = told(STREET);
         x.send(2, 0);
         x.evening();
         x.call(2);
@@ -528,7 +509,7 @@ public final class PromiseTest {
     }
 
     private void tonight() {
-        FaithfulStools x = Checks.told(STREET);
+        FaithfulStools x = told(STREET);
         due("15 nobody walks", x.walk(), 0);
         x.send(0, 0);
         x.send(1, 1);
@@ -543,25 +524,15 @@ public final class PromiseTest {
         due("15 walk", x.walk(), 60);
         due("14 another what", x.tonight(3), -1);
         due("14 another what", x.tonight(-1), -1);
-        x = Checks.told("hearth a at 0 heavy 9 room 5; stool x at 0 strong 9; stool y at 0 strong 9; stool z at 0 strong 9 creed 3;");
+        x = told("hearth a at 0 heavy 9 room 5; stool x at 0 strong 9; stool y at 0 strong 9; stool z at 0 strong 9 creed 3;");
         x.send(0, 0);
         x.send(1, 0);
         x.send(2, 0);
         due("14 all quarrel, if two are unlike", x.tonight(2), 7);
     }
 
-    private void lie(String call, FaithfulStools x, int... numbers) {
-        due(call + " count", x.about(12), numbers.length);
-        for (int i = 0; i < numbers.length; i++) {
-            due(call + " lies " + i, x.lies(i), numbers[i]);
-        }
-        due(call + " no more", x.lies(numbers.length), -2);
-        due(call + " none such", x.lies(-1), -2);
-        due(call + " none such", x.lies(HIGH), -2);
-    }
-
     private void roundAndService() {
-        FaithfulStools x = Checks.told(STREET);
+        FaithfulStools x = told(STREET);
         due("16 how many", x.round(0), 3);
         lie("16", x, 0, 0, 1);
         due("16 walk", x.round(1), 40);
@@ -574,39 +545,39 @@ public final class PromiseTest {
         due("16 anew, whoever is sent", x.round(0), 3);
         due("16 nothing is done", x.walk(), 40);
         // One who counts at no hearth stays nowhere, for the least walk; of like ones the first hearth.
-        x = Checks.told("hearth a at 10 heavy 5; hearth b at 30 heavy 5; stool x at 20 strong 9; stool y at 20 strong 1;");
+        x = told("hearth a at 10 heavy 5; hearth b at 30 heavy 5; stool x at 20 strong 9; stool y at 20 strong 1;");
         due("16 one", x.round(0), 1);
         lie("16 the first of like ones", x, 0, -1);
         due("17 none", x.service(), -1);
         lie("17 none", x);
         // A service is as short as can be, though more could count.
-        x = Checks.told("hearth a at 10 heavy 5 room 2; stool x at 12 strong 9; stool y at 11 strong 9;");
+        x = told("hearth a at 10 heavy 5 room 2; stool x at 12 strong 9; stool y at 11 strong 9;");
         due("17 shortest", x.service(), 1);
         lie("17 shortest", x, -1, 0);
         due("16 most", x.round(0), 2);
         lie("16 most", x, 0, 0);
         // He who breaks may help another one to count in a round, but not in a service.
-        x = Checks.told("hearth a at 10 heavy 10 room 2; stool x at 12 strong 5; stool y at 11 strong 4;");
+        x = told("hearth a at 10 heavy 10 room 2; stool x at 12 strong 5; stool y at 11 strong 4;");
         due("16 helped", x.round(0), 1);
         lie("16 helped", x, 0, 0);
         due("16 both walk", x.round(1), 3);
         due("17 nobody may break", x.service(), -1);
-        x = Checks.told("stool x at 12 strong 5;");
+        x = told("stool x at 12 strong 5;");
         due("17 no hearths", x.service(), 0);
         lie("17 no hearths", x, -1);
         due("16 no hearths", x.round(0), 0);
-        x = Checks.told("hearth a at 10 heavy 0;");
+        x = told("hearth a at 10 heavy 0;");
         due("17 no stools", x.service(), -1);
         due("16 no stools", x.round(1), 0);
         lie("16 no stools", x);
     }
 
     private void teams() {
-        FaithfulStools x = Checks.told(STREET);
+        FaithfulStools x = told(STREET);
         due("18 alone", x.team(0, 0), 1);
         due("18 alone", x.team(0, 1), 4);
         due("18 least set", x.team(1, 1), 2);
-        x = Checks.told("hearth a at 0 heavy 30 room 3; hearth b at 0 heavy 30 room 2; hearth c at 0 heavy 99;"
+        x = told("hearth a at 0 heavy 30 room 3; hearth b at 0 heavy 30 room 2; hearth c at 0 heavy 99;"
             + "stool v at 0 strong 10 creed 1; stool w at 0 strong 15; stool x at 0 strong 14;"
             + "stool y at 0 strong 10 creed 1; stool z at 0 strong 14;");
         due("18 three of one creed", x.team(0, 0), 3);
@@ -620,11 +591,11 @@ public final class PromiseTest {
     }
 
     private void lastsAndSoon() {
-        FaithfulStools x = Checks.told(STREET);
+        FaithfulStools x = told(STREET);
         due("19 lasts", x.lasts(2, 0), 11);
         due("19 lasts", x.lasts(1, 1), 2);
         due("19 not at all", x.lasts(0, 0), 0);
-        due("19 by the day", Checks.told("hearth a at 0 heavy 1; stool x at 0 strong 8; bears day;").lasts(0, 0), 5);
+        due("19 by the day", told("hearth a at 0 heavy 1; stool x at 0 strong 8; bears day;").lasts(0, 0), 5);
         due("20 soon", x.soon(2, 0), 2);
         due("20 soon", x.soon(1, 1), 2);
         due("20 never", x.soon(0, 0), -1);
@@ -640,23 +611,23 @@ public final class PromiseTest {
         x.evening();
         due("20 saved now", x.soon(2, 0), 0);
         due("19 by what is now", x.lasts(2, 0), 9);
-        x = Checks.told("hearth a at 0 heavy 39; stool x at 0 strong 99; saves 60;");
+        x = told("hearth a at 0 heavy 39; stool x at 0 strong 99; saves 60;");
         due("19 sixty-one", x.lasts(0, 0), -1);
-        x = Checks.told("hearth a at 0 heavy 40; stool x at 0 strong 99; saves 60; cold 100;");
+        x = told("hearth a at 0 heavy 40; stool x at 0 strong 99; saves 60; cold 100;");
         due("19 sixty", x.lasts(0, 0), 60);
         due("20 sixty", x.soon(0, 0), 60);
-        x = Checks.told("hearth a at 0 heavy 1; stool x at 0 strong 99; saves 61;");
+        x = told("hearth a at 0 heavy 1; stool x at 0 strong 99; saves 61;");
         due("20 sixty-one", x.soon(0, 0), -1);
         // He breaks at first, and counts once he is weak enough.
-        x = Checks.told("hearth a at 0 heavy 1; stool x at 0 strong 80; bears (strong>10)*999; saves 1;");
+        x = told("hearth a at 0 heavy 1; stool x at 0 strong 80; bears (strong>10)*999; saves 1;");
         due("20 breaks first", x.soon(0, 0), 4);
         due("19 breaks first", x.lasts(0, 0), 0);
-        x = Checks.told("hearth a at 0 heavy 1; stool x at 0 strong 80; bears (day<3)*999; saves 1;");
+        x = told("hearth a at 0 heavy 1; stool x at 0 strong 80; bears (day<3)*999; saves 1;");
         due("20 by the day", x.soon(0, 0), 4);
     }
 
     private void change() {
-        FaithfulStools x = Checks.told(STREET);
+        FaithfulStools x = told(STREET);
         due("21 none", x.change(0), -1);
         x.send(2, 0);
         x.send(0, 1);
@@ -669,13 +640,13 @@ public final class PromiseTest {
         x.call(0);
         x.send(1, 1);
         due("21 not more", x.change(2), -1);
-        x = Checks.told("hearth a at 0 heavy 9; stool x at 0 strong 1; stool y at 0 strong 9; stool z at 0 strong 9;");
+        x = told("hearth a at 0 heavy 9; stool x at 0 strong 1; stool y at 0 strong 9; stool z at 0 strong 9;");
         x.send(0, 0);
         due("21 the first of like ones", x.change(1), 1);
     }
 
     private void guests() {
-        FaithfulStools x = Checks.told(STREET);
+        FaithfulStools x = told(STREET);
         due("22 two rests", x.guests(0, 1), 2);
         lie("22", x, 0, 0);
         due("22 unlike creeds", x.guests(1, 2), 2);
@@ -689,17 +660,17 @@ public final class PromiseTest {
         lie("22 none such", x);
         due("22 none such", x.guests(-1, 0), -1);
         due("22 none such", x.guests(LOW, HIGH), -1);
-        x = Checks.told("stool x at 0 strong 1; stool y at 0 strong 1;");
+        x = told("stool x at 0 strong 1; stool y at 0 strong 1;");
         due("22 no hearths", x.guests(0, 1), -1);
         // Each would go where the other one is not, and where he is: none rests.
-        x = Checks.told("hearth a at 10 heavy 10 room 2; hearth b at 12 heavy 10 room 2; stool x at 10 strong 5; stool y at 9 strong 10;"
+        x = told("hearth a at 10 heavy 10 room 2; hearth b at 12 heavy 10 room 2; stool x at 10 strong 5; stool y at 9 strong 10;"
             + "bears (many=1)*(strong<10)*99+(many=2)*(strong>9)*99;");
         due("22 no rest", x.guests(0, 1), 0);
         lie("22 no rest", x);
     }
 
     private void coverAndTheirLike() {
-        FaithfulStools x = Checks.told(STREET);
+        FaithfulStools x = told(STREET);
         due("23 how many", x.cover(0), 1);
         due("23 which", x.cover(1), 2);
         due("23 another what", x.cover(2), -1);
@@ -721,7 +692,7 @@ public final class PromiseTest {
         due("31 none such", x.nearest(3), -1);
         due("31 none such", x.nearest(-1), -1);
         due("33 twos", x.schisms(), 2);
-        x = Checks.told("hearth a at 0 heavy 9; hearth b at 0 heavy 9; hearth c at 0 heavy 99; stool x at 0 strong 9; stool y at 0 strong 1 creed 1;"
+        x = told("hearth a at 0 heavy 9; hearth b at 0 heavy 9; hearth c at 0 heavy 99; stool x at 0 strong 9; stool y at 0 strong 1 creed 1;"
             + "stool z at 0 strong 50 creed 2; bears (warm+heavy)*(strong<40)+(strong>39)*(99-heavy)/2;");
         due("23 one does", x.cover(0), 1);
         due("23 least set", x.cover(1), 1);
@@ -729,20 +700,20 @@ public final class PromiseTest {
         due("29 least load", x.easiest(2), 2);
         due("30 nobody", x.forlorn(), 0);
         due("33 all unlike", x.schisms(), 3);
-        x = Checks.told("hearth a at 0 heavy 9; hearth b at 0 heavy 20; stool x at 0 strong 9; stool y at 0 strong 30; bears heavy*(strong<20)+(strong>19)*(heavy<10)*99;");
+        x = told("hearth a at 0 heavy 9; hearth b at 0 heavy 20; stool x at 0 strong 9; stool y at 0 strong 30; bears heavy*(strong<20)+(strong>19)*(heavy<10)*99;");
         due("23 two", x.cover(0), 2);
         due("23 both", x.cover(1), 3);
-        x = Checks.told("hearth a at 0 heavy 9; hearth b at 0 heavy 3; stool x at 0 strong 5;");
+        x = told("hearth a at 0 heavy 9; hearth b at 0 heavy 3; stool x at 0 strong 5;");
         due("30 forlorn", x.forlorn(), 1);
-        x = Checks.told("hearth a at 0 heavy 0; hearth b at 0 heavy 0;");
+        x = told("hearth a at 0 heavy 0; hearth b at 0 heavy 0;");
         due("30 no stools", x.forlorn(), 3);
         due("23 no stools", x.cover(0), 0);
-        x = Checks.told("hearth a at 0 heavy 9; stool x at 0 strong 5;");
+        x = told("hearth a at 0 heavy 9; stool x at 0 strong 5;");
         due("23 nobody could", x.cover(1), 0);
     }
 
     private void pilgrims() {
-        FaithfulStools x = Checks.told(STREET);
+        FaithfulStools x = told(STREET);
         due("24 from below", x.pilgrim(0), 30);
         due("24 from between", x.pilgrim(1), 30);
         due("24 from above", x.pilgrim(2), 40);
@@ -750,14 +721,14 @@ public final class PromiseTest {
         due("24 from where he is told to be", x.pilgrim(2), 40);
         due("24 none such", x.pilgrim(3), -1);
         due("24 none such", x.pilgrim(-1), -1);
-        x = Checks.told("hearth a at 90 heavy 0; hearth b at 10 heavy 0; hearth c at 50 heavy 0; stool x at 30 strong 0;");
+        x = told("hearth a at 90 heavy 0; hearth b at 10 heavy 0; hearth c at 50 heavy 0; stool x at 30 strong 0;");
         due("24 the nearer end first", x.pilgrim(0), 100);
-        x = Checks.told("stool x at 30 strong 0;");
+        x = told("stool x at 30 strong 0;");
         due("24 no hearths", x.pilgrim(0), 0);
     }
 
     private void ahead() {
-        FaithfulStools x = Checks.told(STREET);
+        FaithfulStools x = told(STREET);
         due("28 not so", x.grace(), -1);
         x.send(0, 0);
         x.send(1, 0);
@@ -781,18 +752,18 @@ public final class PromiseTest {
         x.evening();
         due("28 now", x.grace(), 0);
         due("27 all are saved", x.saved(), 7);
-        x = Checks.told("hearth a at 0 heavy 0; stool x at 0 strong 9; saves 60; cold 100;");
+        x = told("hearth a at 0 heavy 0; stool x at 0 strong 9; saves 60; cold 100;");
         x.send(0, 0);
         due("28 sixty, no cold", x.grace(), 60);
         due("25 by the seed", x.will(0, 60), 0);
-        x = Checks.told("hearth a at 0 heavy 0; stool x at 0 strong 9; saves 61;");
+        x = told("hearth a at 0 heavy 0; stool x at 0 strong 9; saves 61;");
         x.send(0, 0);
         due("28 sixty-one", x.grace(), -1);
         due("25 sixty", x.will(0, 60), 60);
     }
 
     private void law() {
-        FaithfulStools x = Checks.told(STREET);
+        FaithfulStools x = told(STREET);
         due("32 nobody is sent", x.law(0), 0);
         x.send(0, 0);
         x.send(1, 0);
@@ -806,7 +777,7 @@ public final class PromiseTest {
         due("32 another n", x.law(100), -1);
         due("32 another n", x.law(-100), -1);
         due("32 another n", x.law(LOW), -1);
-        x = Checks.told("hearth a at 0 heavy 5; stool x at 0 strong 0; bears heavy*heavy;");
+        x = told("hearth a at 0 heavy 5; stool x at 0 strong 0; bears heavy*heavy;");
         x.send(0, 0);
         due("32 0 at least", x.law(-9), 1);
         due("32 not 0", x.law(-4), 0);
@@ -814,19 +785,19 @@ public final class PromiseTest {
 
     private void odds() {
         int[][] by30 = {{1, 1}, {7, 10}, {49, 100}, {343, 1000}, {2401, 10000}};
-        FaithfulStools x = Checks.told("cold 30;");
+        FaithfulStools x = told("cold 30;");
         for (int n = 0; n <= 4; n++) {
             due("34 upper " + n, x.odds(n, 0), by30[n][0]);
             due("34 lower " + n, x.odds(n, 1), by30[n][1]);
         }
-        x = Checks.told("cold 1;");
+        x = told("cold 1;");
         due("34 upper", x.odds(4, 0), 96059601);
         due("34 lower", x.odds(4, 1), 100000000);
-        x = Checks.told("cold 100;");
+        x = told("cold 100;");
         due("34 never", x.odds(4, 0), 0);
         due("34 never", x.odds(4, 1), 1);
         due("34 none to be cold in", x.odds(0, 0), 1);
-        x = Checks.told("");
+        x = told("");
         due("34 always", x.odds(3, 0), 1);
         due("34 always", x.odds(3, 1), 1);
         for (int none : new int[] {-1, 5, LOW, HIGH}) {
@@ -836,7 +807,7 @@ public final class PromiseTest {
     }
 
     private void past() {
-        FaithfulStools x = Checks.told(PAST);
+        FaithfulStools x = told(PAST);
         due("40 all", x.rows(0), 27);
         due("41 not sure", x.sure(1, 0), -2);
         due("42 first of like ones", x.ask(0, 0), 1);
@@ -863,7 +834,7 @@ public final class PromiseTest {
         due("42 no rows", x.ask(0, 0), -1);
         due("42 no rows", x.ask(1, 0), -1);
         due("45 felt", x.about(8), 5);
-        x = Checks.told(PAST);
+        x = told(PAST);
         for (int none : new int[] {0, 4, LOW, HIGH}) {
             due("36 no such evening", x.dented(none, 0, true), -1);
             due("37 no such evening", x.held(none, 0, true), -1);
@@ -880,24 +851,24 @@ public final class PromiseTest {
         due("40 as told", x.rows(0), 27);
         x.held(1, 8, false);
         due("41 broke at b", x.sure(1, 0), 1);
-        x = Checks.told("hearth a at 0 heavy 1; stool x at 0 strong 9; bears day*99;");
+        x = told("hearth a at 0 heavy 1; stool x at 0 strong 9; bears day*99;");
         x.held(1, 9, false);
         x.held(2, 5, false);
         x.held(3, 3, false);
         due("40 by the day", x.rows(0), 1);
-        x = Checks.told("hearth a at 0 heavy 1;");
+        x = told("hearth a at 0 heavy 1;");
         due("40 no stools", x.rows(0), 0);
         due("41 no stools", x.sure(1, 0), -3);
         due("42 no stools", x.ask(0, 0), -1);
         due("36 no stools", x.dented(1, 0, true), -1);
         due("37 no stools", x.held(1, 0, true), -1);
-        x = Checks.told("stool x at 0 strong 9;");
+        x = told("stool x at 0 strong 9;");
         due("40 no hearths", x.rows(0), 1);
         due("41 no hearths", x.sure(3, 0), -1);
     }
 
     private void pastInTwoTimes() {
-        FaithfulStools x = Checks.told(PAST);
+        FaithfulStools x = told(PAST);
         due("39 later", x.later(0), 0);
         due("39 later", x.later(10), 10);
         x.dented(1, 1, true);
@@ -936,7 +907,7 @@ public final class PromiseTest {
     }
 
     private void images() {
-        FaithfulStools x = Checks.told(DRAWS);
+        FaithfulStools x = told(DRAWS);
         for (int none : new int[] {-1, 3, LOW, HIGH}) {
             due("43 none such", x.image(none), -1);
             due("44 none such", x.back(none), -1);
@@ -974,7 +945,7 @@ public final class PromiseTest {
             FaithfulStools x = new FaithfulStools();
             String text = blanks.substring(last.length()) + last;
             boolean fine = last.endsWith(";");
-            due("2 1600 bytes " + last, Checks.tell(x, text), fine ? 0 : -1);
+            due("2 1600 bytes " + last, tell(x, text), fine ? 0 : -1);
             int place = last.equals("foot") ? 1596 : last.equals("saves 0") ? 1599 : 1600;
             due("5 fault of " + last, x.fault(0), fine ? 0 : last.equals("saves 0") ? 4 : 2);
             due("5 place of " + last, x.fault(1), fine ? -1 : place);
@@ -983,10 +954,10 @@ public final class PromiseTest {
         for (int i = 0; i < 29; i++) {
             deep.append("not not not not not not not 0 and ");
         }
-        FaithfulStools x = Checks.told(deep + "not not not not not not not 1;");
+        FaithfulStools x = told(deep + "not not not not not not not 1;");
         x.send(0, 0);
         due("8 the last unit of thirty is heard", x.load(0), 0);
-        x = Checks.told(deep + "not not not not not not not 0;");
+        x = told(deep + "not not not not not not not 0;");
         x.send(0, 0);
         due("8 the last unit of thirty is heard", x.load(0), 1);
         due("8 many wait for the innermost", valueOf("1-(1-(1-(1-(1-(1-(9-(1<2+3*4)))))))"), 8);
@@ -996,7 +967,7 @@ public final class PromiseTest {
         String hearths = "hearth a at 10 heavy 40 room 5; hearth b at 20 heavy 8; hearth c at 30 heavy 8; hearth d at 40 heavy 8;"
             + "hearth e at 50 heavy 8; hearth f at 60 heavy 8;";
         String stools = "stool v at 10 strong 8; stool w at 20 strong 8; stool x at 30 strong 8; stool y at 40 strong 8; stool z at 50 strong 8;";
-        FaithfulStools x = Checks.told(hearths + stools + "saves 1;");
+        FaithfulStools x = told(hearths + stools + "saves 1;");
         due("16 all five", x.round(0), 5);
         // v at b, w at c, and so on: ten each; as short as w at b, x at c and v at f, and so on, but that is not first.
         due("16 walk", x.round(1), 50);
@@ -1030,26 +1001,26 @@ public final class PromiseTest {
         due("25 will", x.will(4, 2), 1);
         due("11 evening", x.evening(), 0);
         due("27 saved", x.saved(), 31);
-        x = Checks.told("hearth a at 0 heavy 36 room 5;" + stools);
+        x = told("hearth a at 0 heavy 36 room 5;" + stools);
         due("16 five at one", x.round(0), 5);
         lie("16 five at one", x, 0, 0, 0, 0, 0);
         due("17 five at one", x.service(), 150);
-        x = Checks.told("hearth a at 0 heavy 32 room 4;" + stools);
+        x = told("hearth a at 0 heavy 32 room 4;" + stools);
         due("16 four at one", x.round(1), 100);
         lie("16 four at one", x, 0, 0, 0, 0, -1);
-        x = Checks.told(hearths.replace("heavy 40", "heavy 0") + stools + "wears dent;");
+        x = told(hearths.replace("heavy 40", "heavy 0") + stools + "wears dent;");
         due("16 of like ones", x.round(1), 0);
         lie("16 at home, or with v", x, 0, 1, 2, 3, 4);
         due("17 six for five", x.service(), -1);
-        x = Checks.told("hearth a at 0 heavy 9; hearth b at 5 heavy 9; stool x at 0 strong 9; stool y at 5 strong 9; bears heavy*many;");
+        x = told("hearth a at 0 heavy 9; hearth b at 5 heavy 9; stool x at 0 strong 9; stool y at 5 strong 9; bears heavy*many;");
         x.send(0, 1);
         due("21 just as strong", x.change(0), -1);
         due("22 just as strong: each at home, or at the other one's", x.guests(0, 1), 2);
         lie("22 each at home", x, 0, 1);
-        x = Checks.told("hearth a at 0 heavy 9 room 2; hearth b at 9 heavy 99; stool x at 0 strong 5; stool y at 9 strong 5;");
+        x = told("hearth a at 0 heavy 9 room 2; hearth b at 9 heavy 99; stool x at 0 strong 5; stool y at 9 strong 5;");
         due("22 just as strong together", x.guests(0, 1), 1);
         lie("22 together", x, 0, 0);
-        x = Checks.told(PAST);
+        x = told(PAST);
         // At a first and nowhere last; between, at a or nowhere.
         x.dented(1, 1, true);
         x.held(3, 9, true);
@@ -1059,7 +1030,7 @@ public final class PromiseTest {
     }
 
     private void about() {
-        FaithfulStools x = Checks.told(STREET + "cold 20; draw 8; bears heavy+(1);");
+        FaithfulStools x = told(STREET + "cold 20; draw 8; bears heavy+(1);");
         x.later(3);
         x.send(0, 0);
         x.send(1, 1);
