@@ -511,6 +511,9 @@ public final class PromiseTest extends Checks {
     private void tonight() {
         FaithfulStools x = told(STREET);
         due("15 nobody walks", x.walk(), 0);
+        for (int what = 0; what <= 2; what++) {
+            due("14 nobody is sent, unlike as they are", x.tonight(what), 0);
+        }
         x.send(0, 0);
         x.send(1, 1);
         due("14 counts", x.tonight(0), 2);
@@ -529,6 +532,10 @@ public final class PromiseTest extends Checks {
         x.send(1, 0);
         x.send(2, 0);
         due("14 all quarrel, if two are unlike", x.tonight(2), 7);
+        x.call(0);
+        x.call(2);
+        due("14 those called back quarrel nowhere", x.tonight(2), 0);
+        due("14 the one who stays counts", x.tonight(0), 2);
     }
 
     private void roundAndService() {
